@@ -146,7 +146,7 @@ public final class FormMill {
         if (label < 0 || label > MOST_LABEL || signer != NONE && (signer < 0 || signer > MOST_SIGNER)) {
             return BAD;
         }
-        return ledger.enter(label, amount, signer);
+        return ledger.enter(amount, signer);
     }
 
     public int desk(int sort, int n) {
@@ -462,7 +462,7 @@ public final class FormMill {
         long sum = 0;
         for (int i = 0; i < draftCount; i++) {
             Draft d = drafts[i];
-            if (d.formNumber == form && d.receipt != NONE && d.answers[part] != null) {
+            if (d != null && d.formNumber == form && d.receipt != NONE && d.answers[part] != null) {
                 sum += what == 0 ? 1 : statOf(d, part, what);
             }
         }
@@ -735,18 +735,16 @@ public final class FormMill {
         }
     }
 
-    /** The ENTRIES of the office. */
+    /** The ENTRIES of the office. No call tells a label, so these are not kept. */
     private static final class Ledger {
-        private final int[] label = new int[MOST_ENTRIES];
         private final long[] amount = new long[MOST_ENTRIES];
         private final int[] signer = new int[MOST_ENTRIES];
         private int count;
 
-        private int enter(int itsLabel, long itsAmount, int itsSigner) {
+        private int enter(long itsAmount, int itsSigner) {
             if (count >= MOST_ENTRIES) {
                 return FULL;
             }
-            label[count] = itsLabel;
             amount[count] = itsAmount;
             signer[count] = itsSigner;
             count++;
@@ -799,7 +797,6 @@ public final class FormMill {
             for (int token = 0; token < kinds.length; token++) {
                 place = behindBlanks(place);
                 places[token] = place;
-                values[token] = 0;
                 place = splitOne(token, place);
                 if (kinds[token] == END || kinds[token] == WRONG) {
                     return;
