@@ -1595,15 +1595,22 @@ public final class FormMill {
         private long ask(int doing, int part) {
             int column = doing == DO_CELL ? (int) pop() : 0;
             int place = doing >= DO_ITEM ? (int) pop() : 0;
-            Obj answer = answers[part];
             int kind = form.kind[part];
+            Obj answer = answers[part];
             long got = 0;
             if (answer == null) {
                 failure = NULL;
             } else if (!answer.isOf(wanted(doing, kind))) {
                 failure = CAST;
             } else {
-                got = askObject(answer, doing, kind, place, column);
+                switch (doing) {
+                    case DO_LEN: got = answer.size; break;
+                    case DO_TOTAL: got = totalOf(answer); break;
+                    case DO_ITEM: got = worthAt(answer, place); break;
+                    case DO_COLUMN: got = columnOf(answer, place); break;
+                    case DO_CELL: got = cellAt(answer, place, column); break;
+                    default: got = nameOf(answer, kind); break;
+                }
             }
             if (failure != 0) {
                 fail(failure);
@@ -1618,14 +1625,11 @@ public final class FormMill {
             return doing == DO_NAME && kind == ENTRY ? ONE : AS[kind];
         }
 
-        private long askObject(Obj answer, int doing, int kind, int place, int column) {
-            switch (doing) {
-                case DO_NAME: return kind == MANY ? answer.trues() : kind < MANY || kind == ENTRY ? worthAt(answer, 0) : answer.size;
-                case DO_LEN: return answer.size;
-                case DO_TOTAL: return totalOf(answer);
-                case DO_ITEM: return worthAt(answer, place);
-                case DO_COLUMN: return columnOf(answer, place);
-                default: return cellAt(answer, place, column);
+        private long nameOf(Obj answer, int kind) {
+            switch (kind) {
+                case MANY: return answer.trues();
+                case TEXT: case TABLE: case LIST: case SIGNED: return answer.size;
+                default: return worthAt(answer, 0);
             }
         }
 
