@@ -379,7 +379,7 @@ public final class FormMill {
             return FULL;
         }
         worker.begin(d.form, d.answers);
-        long worth = worker.workFigure(figure);
+        long worth = worker.worthOf(figure, 0);
         int failure = worker.failure;
         if (failure == 0) {
             figureValue = worth;
@@ -650,7 +650,7 @@ public final class FormMill {
 
     private long statOf(Draft d, int part, int what) {
         worker.begin(d.form, d.answers);
-        long worth = worker.workName(part);
+        long worth = worker.ask(DO_NAME, part);
         if (worker.failure != 0) {
             return what == 2 ? 1 : 0;
         }
@@ -1415,7 +1415,7 @@ public final class FormMill {
         /** The FAILURE that is under way (0: none), and the figure in which it AROSE. */
         private int failure;
         private int arose;
-        private int figureNow;
+        private int figureNow = NONE;
         private int worked;
         private int ended;
         private int elses;
@@ -1452,32 +1452,13 @@ public final class FormMill {
             for (int i = 0; i < MOST_FIGURES; i++) {
                 isWorked[i] = false;
             }
-            settle();
-        }
-
-        /** Nothing fails, and no figure is under way. */
-        private void settle() {
             failure = 0;
-            arose = NONE;
-            figureNow = NONE;
-            top = 0;
-            tries = 0;
         }
 
-        private long workFigure(int figure) {
-            settle();
-            return worthOf(figure, 0);
-        }
-
-        private long workName(int part) {
-            settle();
-            return ask(DO_NAME, part);
-        }
-
-        /** Works an exp; inside 0 figures it stands alone. All jumps go ahead, so its steps are not more than its places. */
+        /** Works an exp; inside 0 figures it stands alone, and what failed ahead of it is over. All jumps go ahead. */
         private long work(int start, int inside) {
             if (inside == 0) {
-                settle();
+                failure = 0;
             }
             int floor = top;
             int outerTries = tries;
@@ -1492,9 +1473,7 @@ public final class FormMill {
                     at = takeElse();
                 }
             }
-            long answer = pop();
-            top = floor;
-            return answer;
+            return pop();
         }
 
         private int step(int at, int inside) {
@@ -1570,7 +1549,7 @@ public final class FormMill {
         }
 
         private long worthOf(int figure, int inside) {
-            if (isWorked[figure] || inside > MOST_FIGURES) {
+            if (isWorked[figure] || inside >= MOST_FIGURES) {
                 failure = itsFailure[figure];
                 arose = itsArose[figure];
                 return worth[figure];
@@ -1746,7 +1725,7 @@ public final class FormMill {
             findings = 0;
             worker.begin(form, answers);
             for (int p = 0; p < form.parts; p++) {
-                worker.settle();
+                worker.failure = 0;
                 boolean isOpen = form.group[p] == NONE || isShown[form.group[p]];
                 long condition = isOpen && form.when[p] != NONE ? worker.work(form.when[p], 0) : 1;
                 isShown[p] = isOpen && worker.failure == 0 && condition != 0;
@@ -1983,7 +1962,6 @@ public final class FormMill {
         }
 
         private int tryUpTo(int work) {
-            goesOn = true;
             for (int i = 0; i < work; i++) {
                 if (inspector.worker.isFull()) {
                     return FULL;

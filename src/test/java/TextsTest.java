@@ -82,6 +82,10 @@ public final class TextsTest {
         fault(other, "form; what", 6);
         due.is("the tape is used up by a fault", other.count(5), 0);
         due.is("no form came", other.count(0), 0);
+        for (int i = 0; i < 7; i++) {
+            String text = "form; check 1 " + times("1", 100, "+");
+            fault(other, text + " 2;", text.length() + 1);
+        }
         due.is("a form behind a fault", Due.form(other, "form; yes a;"), 0);
         due.is("it has its part alone", other.about(0, 0), 1);
     }
@@ -269,7 +273,7 @@ public final class TextsTest {
             "- not - 1", "a", "a[1]", "a[1, 2]", "a[a[1], a]", "len a", "has a", "is truths a", "is wholes a",
             "is moneys a", "is letters a", "is rows a", "is entries a", "is signeds a", "is one a", "total a",
             "total a[1]", "try 1 else 2", "try - 1 else - 2", "try try 1 else 2 else 3", "try 1 else try 2 else 3",
-            "(1)", "((1 or 2))", "(1 = 2) = 3", "not a = 1", "1 + try 2 else 3 * 4", "len a + 1", "total a - 1", "a[1 or 2]"
+            "a[1 or 2, 3 or 4]", "total a[1 or 2]", "(1)", "((1 or 2))", "(1 = 2) = 3", "not a = 1", "1 + try 2 else 3 * 4", "len a + 1", "total a - 1", "a[1 or 2]"
         };
         for (String exp : good) {
             stands("form; yes a; check 1 " + exp + ";");
@@ -301,6 +305,7 @@ public final class TextsTest {
         refused("form;" + times("yes a@;", 20, " ") + " group #b { }");
         stands("form;" + times("group a@ {", 10, " ") + times("yes b@;", 10, " ") + times("}", 10, ""));
         stands("form;" + times("group a@ { }", 20, " "));
+        refused("form;" + times("group a@ { }", 20, " ") + " yes #b;");
         refused("form; group g { " + times("yes a@;", 19, " ") + " } yes #b;");
         refused("form;" + times("yes a@;", 20, " ") + " #b;");
         stands("form;" + times("figure f@ = 1;", 12, " ") + times("check 1 1;", 12, " "));
@@ -369,6 +374,12 @@ public final class TextsTest {
         stands("form;" + times("group a@ {", 9, " ") + "group b when 1 { }" + times("}", 9, ""));
         refused("form;" + times("group a@ {", 9, " ") + "group b when #- 1 { }" + times("}", 9, ""));
         stands("form;" + times("group a@ {", 9, " ") + "yes b when - 1;" + times("}", 9, ""));
+        stands("form; figure f = " + times("(", 10, "") + "1" + times(")", 10, "") + ";");
+        refused("form; figure f = " + times("(", 10, "") + "#(1" + times(")", 11, "") + ";");
+        stands("form; yes a when " + times("(", 10, "") + "1" + times(")", 10, "") + ";");
+        refused("form; yes a when " + times("(", 10, "") + "#(1" + times(")", 11, "") + ";");
+        stands("form; yes a; check 1 " + times("(", 8, "") + "a[1, (1)]" + times(")", 8, "") + ";");
+        stands("form; yes a; check 1 " + times("(", 8, "") + "total a[(1)]" + times(")", 8, "") + ";");
         // What has ended counts no more; rules lie in no group.
         stands("form; check 1 " + times("(1)", 30, " + ") + " + - 1 + - 1;");
         stands("form; check 1 " + times("- 1", 20, " + ") + ";");

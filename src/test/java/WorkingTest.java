@@ -24,6 +24,7 @@ public final class WorkingTest {
         asking();
         figure();
         figuresOnce();
+        chain();
         tries();
         told();
         full();
@@ -628,6 +629,29 @@ public final class WorkingTest {
         Due.give(mill, 0, 0, 3, 65);
         due.is("figure(0, 2): anew in the next call", mill.figure(0, 2), 0);
         due.is("value()", mill.value(), 1);
+    }
+
+    /** Twelve figures, each of which wants the one ahead of it. */
+    private static void chain() {
+        due.promise(24, "figure: in figures");
+        StringBuilder text = new StringBuilder("form; whole a 0 9; figure f0 = a + 1;");
+        for (int i = 1; i < 12; i++) {
+            text.append("figure f").append(i).append(" = f").append(i - 1).append(" + 2 * f").append(i / 2).append(";");
+        }
+        FormMill mill = office(text + "check 5 f11;");
+        due.is("check(0)", mill.check(0), 1);
+        row(mill, 0, NULL, NONE, 0, 5, 0);
+        told(mill, "check(0)", 12, 0, NONE);
+        due.is("count(7)", mill.count(7), 1);
+        Due.give(mill, 0, 0, 1, 0);
+        long[] want = new long[12];
+        for (int i = 0; i < 12; i++) {
+            want[i] = i == 0 ? 1 : want[i - 1] + 2 * want[i / 2];
+            due.is("figure(0, " + i + ")", mill.figure(0, i), 0);
+            due.is("value()", mill.value(), want[i]);
+            due.is("told(0)", mill.told(0), i + 1);
+        }
+        due.is("check(0)", mill.check(0), 0);
     }
 
     private static void tries() {
