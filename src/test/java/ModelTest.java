@@ -2,7 +2,7 @@ import java.util.Random;
 
 /** Random runs of calls, the same in each round, put to the class and to the model: all promises at once. */
 public final class ModelTest {
-    private static final int RUNS = 4000, CALLS = 512;
+    private static final int RUNS = 5000, CALLS = 512;
     private static final int[] SORT_OF_KIND = {0, 1, 2, 1, 1, 0, 3, 4, 5, 6, 7};
     private static final String[] SORTS = {"truths", "wholes", "moneys", "letters", "rows", "entries", "signeds", "one"};
 
@@ -36,13 +36,57 @@ public final class ModelTest {
     }
 
     private void run(int run) {
-        int mode = run % 4;
+        int mode = run % 5;
+        if (mode == 4) {
+            nearlyFull(run / 5 % 6);
+        }
         while (calls < CALLS && !isWrong) {
             if (mode == 0 && calls < 200) {
                 text();
             } else {
                 call(random.nextInt(100), mode);
             }
+        }
+    }
+
+    /** An office that is full in one way, or has room for a few more. */
+    private void nearlyFull(int way) {
+        feed("form; yes p0; group p1 { whole p2 0 3; } list p3 2; figure f0 = 1 / p2;");
+        same("form()", mill.form(), model.form());
+        same("draft(0)", mill.draft(0), model.draft(0));
+        int room = below(5);
+        switch (way) {
+            case 0:
+                for (int n = 100 - room; n > 0; n--) {
+                    same("entry()", mill.entry(n, n, n % 2), model.entry(n, n, n % 2));
+                }
+                break;
+            case 1:
+                for (int n = 29 - room; n > 0; n--) {
+                    same("draft(0)", mill.draft(0), model.draft(0));
+                }
+                break;
+            case 2:
+                for (int n = 40 - room; n > 0; n--) {
+                    same("move()", mill.move(0, n % 2 * 2, 0, 3), model.move(0, n % 2 * 2, 0, 3));
+                }
+                break;
+            case 3:
+                for (int n = 400 - room; n > 0; n--) {
+                    same("give()", mill.give(0, n % 2 * 2), model.give(0, n % 2 * 2));
+                }
+                break;
+            case 4:
+                for (int n = 9 - room % 3; n > 0; n--) {
+                    feed("form; must yes p0; check " + n + " p0;");
+                    same("form()", mill.form(), model.form());
+                }
+                break;
+            default:
+                for (int n = 175 - room; n > 0; n--) {
+                    same("feed()", mill.feed(8, 0x2020202020202020L), model.feed(8, 0x2020202020202020L));
+                }
+                break;
         }
     }
 

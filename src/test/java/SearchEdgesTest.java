@@ -11,6 +11,7 @@ public final class SearchEdgesTest {
         lastOne();
         setsInOrder();
         lastGoesFastest();
+        eachItsOwnAnswers();
         goingOn();
         fromTheBeginning();
         refusedOnes();
@@ -225,6 +226,37 @@ public final class SearchEdgesTest {
             }
         }
         due.is("all fillings", filling, 36);
+    }
+
+    /** Parts of other kinds and lengths, one behind the other as the first and the second of a filling. */
+    private static void eachItsOwnAnswers() {
+        due.promise(35, "each FILLING has its own answers, and nothing of those before");
+        String parts = "many a 8 0 8; many b 2 0 2; money c 999999; yes d; whole e 7 9; choice f 3;";
+        String[] only = {"a and len a=8 and total a=8", "b=0 and len b=2 and not b[1]", "b=2 and len b=2 and total b=2", "c=999999 and len c=1 and total c=c",
+            "d=0 and len d=1 and total d=0", "d and len d=1 and total d=1", "e=7 and len e=1 and total e=7", "f=0 and len f=1 and total f=0",
+            "f=2 and len f=1 and total f=2"};
+        for (String exp : only) {
+            char name = exp.charAt(0);
+            FormMill one = withRule(parts, "has " + name + " and " + exp);
+            due.is("shortest(0, 100) for " + exp, one.shortest(0, 100), 101);
+            one.keep();
+            for (int p = 0; p < 6; p++) {
+                due.is("kindOf(0, " + p + ")", one.kindOf(0, p) == NONE ? 0 : 1, p == name - 'a' ? 1 : 0);
+            }
+            due.is("check(0)", one.check(0), 0);
+            FormMill two = withRule("yes z;" + parts, "has z and has " + name + " and " + exp);
+            int answer = two.shortest(0, 100);
+            due.is("shortest(0, 100) with z for " + exp, answer == 2 ? two.shortest(0, 100) : answer, 102);
+            due.is("keep()", two.keep(), 0);
+            due.is("check(0)", two.check(0), 0);
+        }
+        // What is out of its range by an item too many would be refused.
+        FormMill all = Due.with("form; many a 8 0 8; must many b 2 2 2; must many c 1 1 1;");
+        due.is("shortest(0, 100)", all.shortest(0, 100), 102);
+        all.keep();
+        due.is("item(0, 1, -1)", all.item(0, 1, -1), 2);
+        due.is("item(0, 2, -1)", all.item(0, 2, -1), 1);
+        due.is("kindOf(0, 0)", all.kindOf(0, 0), NONE);
     }
 
     private static void goingOn() {

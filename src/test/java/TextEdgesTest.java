@@ -21,6 +21,8 @@ public final class TextEdgesTest {
         oneComparison();
         endsTooEarly();
         firstTokenThatCantStand();
+        nothingBehindTheEnd();
+        nothingOfTheOneBefore();
         nameTakenAlready();
         twentyParts();
         twelveFigures();
@@ -411,6 +413,48 @@ public final class TextEdgesTest {
         fault("form; yes a when b; #?");
         // A NUMBER out of its bounds counts ahead of what is behind it, a NAME that no part has only at the end.
         fault("form; yes a when zz; text b #25;");
+    }
+
+    private static void nothingBehindTheEnd() {
+        due.promise(3, "THE TAPE ends where it ends, whatever a longer one had there before");
+        FormMill mill = new FormMill();
+        due.is("form()", Due.form(mill, "form; yes abcdefgh; whole b 123456 234567;"), 0);
+        due.is("form() of a word cut off", Due.form(mill, "form; ye"), -16);
+        due.is("form()", Due.form(mill, "form; yes abcdefgh; whole b 123456 234567;"), 1);
+        due.is("form() of a name cut off", Due.form(mill, "form; yes abcd"), -24);
+        due.is("form()", Due.form(mill, "form; until 1111111"), -22);
+        due.is("form() of a number cut off", Due.form(mill, "form; until 11"), -24);
+        // A full tape that ends in a letter, a digit, a blank.
+        for (char last : "ye1 ".toCharArray()) {
+            FormMill full = Office.tapeOf(new FormMill(), 1399);
+            full.feed(1, last);
+            due.is("form() of 1399 blanks and '" + last + "'", full.form(), last == ' ' ? -1410 : -1409);
+        }
+    }
+
+    private static void nothingOfTheOneBefore() {
+        due.promise(3, "a text with a FAULT leaves nothing to the next one");
+        String[] faults = {"form; until 5; signers 2; must yes a when 1; group g { whole b 1 2; } figure f = 1 + 2; check 7 f; check 8 f; ?",
+            "form;check 1 " + sum(125) + ";check 1 1;?", "form; yes a; check 1 zz;"};
+        for (String text : faults) {
+            FormMill mill = new FormMill();
+            for (int i = 0; i < 3; i++) {
+                due.is("form() of '" + text + "'", Due.form(mill, text) < 0 ? 1 : 0, 1);
+            }
+            due.is("form()", Due.form(mill, "form; yes y; choice z 3; figure x = z - 7 * 2;"), 0);
+            int[] want = {2, 1, 0, 5, NONE, 0};
+            for (int what = 0; what < 6; what++) {
+                due.is("about(0, " + what + ")", mill.about(0, what), want[what]);
+            }
+            due.is("part(0, 0, 2)", mill.part(0, 0, 2), 0);
+            due.is("part(0, 1, 1)", mill.part(0, 1, 1), NONE);
+            mill.draft(0);
+            due.is("check(0)", mill.check(0), 0);
+            Due.give(mill, 0, 1, 1, 2);
+            due.is("check(0)", mill.check(0), 0);
+            due.is("figure(0, 0)", mill.figure(0, 0), 0);
+            due.is("value()", mill.value(), -12);
+        }
     }
 
     private static void nameTakenAlready() {

@@ -16,6 +16,7 @@ public final class WorkEdgesTest {
         sumsGoRound();
         comparisons();
         byNought();
+        leftFirst();
         castOfAllSorts();
         nothingIsThere();
         namesOfEmptyRows();
@@ -177,6 +178,24 @@ public final class WorkEdgesTest {
         with(2, 2, row(Long.MIN_VALUE), "c%0", failing(DIVIDE));
         with(2, 2, row(1L << 32), "1/c", 0);
         with(2, 2, row(1L << 32), "1%c", 1);
+    }
+
+    private static void leftFirst() {
+        due.promise(24, "The first that comes, as it is worked.");
+        for (String sign : new String[] {"+", "-", "*", "/", "%", "=", "<", ">", " or ", " and "}) {
+            plain("(1/0)" + sign + "a", failing(DIVIDE));
+            plain("a" + sign + "(1/0)", failing(NULL));
+            plain("(b)" + sign + "c[1/0]", failing(NULL));
+        }
+        plain("a/0", failing(NULL));
+        plain("a%0", failing(NULL));
+        plain("1/0+2*a", failing(DIVIDE));
+        plain("1+2*a+1/0", failing(NULL));
+        plain("0*(1/0)", failing(DIVIDE));
+        with(1, 0, row(1), "b+a", failing(CAST));
+        with(1, 0, row(1), "a+b", failing(NULL));
+        with(1, 1, row(), "b+a", failing(INDEX));
+        with(1, 1, row(), "b/(b-b)", failing(INDEX));
     }
 
     // ---- taken AS
@@ -402,6 +421,9 @@ public final class WorkEdgesTest {
         for (int sort = 0; sort <= 7; sort++) {
             with(0, sort, sort == 7 ? row(0) : row(), "has a", 1);
         }
+        with(1, 1, row(5), "2*is wholes b+1", 3);
+        with(1, 1, row(5), "2*is truths b+1", 1);
+        with(1, 1, row(5), "2*has b+len b", 3);
         FormMill mill = office("has a");
         Due.give(mill, 0, 0, 0, 1);
         mill.give(0, 0);
@@ -527,6 +549,17 @@ public final class WorkEdgesTest {
         }
         due.is("told(3) behind check()", mill.told(3), NONE);
         due.is("a FALSE one", mill.finding(5, 0), 9);
+        due.promise(22, "it AROSE where it did, where it is met again, too");
+        FormMill again = rules("form; figure a = 1; figure b = 1 / 0; figure c = 2; figure d = a + b; figure e = d % 0; figure f = 1 % 0;"
+            + " figure g = try f else b; check 1 f; check 2 b; check 3 f; check 4 e; check 5 d; check 6 g; check 7 1 / 0; check 8 g;");
+        due.is("check(0)", again.check(0), 8);
+        int[] places = {5, 1, 5, 1, 1, 1, NONE, 1};
+        for (int i = 0; i < places.length; i++) {
+            due.is("finding(" + i + ", 4)", again.finding(i, 4), places[i]);
+        }
+        due.is("count(7)", again.count(7), 3);
+        due.is("figure(0, 6)", again.figure(0, 6), DIVIDE);
+        due.is("told(3)", again.told(3), 1);
     }
 
     private static void wordsWorkedAndEnded() {
